@@ -385,11 +385,11 @@ public final class BlockLog {
         }
 
         int byteAt(int at) {
-            return has(at) ? cells[at] : 0;
+            return at >= 0 && at < DISK_BYTES ? cells[at] : 0;
         }
 
         void change(int at, int v) {
-            if (has(at)) {
+            if (at >= 0 && at < DISK_BYTES) {
                 cells[at] = v & 255;
             }
         }
