@@ -1,10 +1,46 @@
+import java.lang.reflect.InvocationTargetException;
+import java.lang.reflect.Method;
+import java.util.ArrayList;
+import java.util.Comparator;
+import java.util.List;
 import java.util.function.IntSupplier;
 
-/** Counts and prints the calls whose answer is not the one that is due. */
+/** Runs tests, and counts and prints the calls whose answer is not the one that is due. */
 final class Check {
     private static int wrong = 0;
+    private static String now = "";
 
     private Check() {
+    }
+
+    /** Runs every test of a class (its static methods with @Says), and ends the program. */
+    static void all(Class<?> tests) {
+        List<Method> methods = new ArrayList<>();
+        for (Method m : tests.getDeclaredMethods()) {
+            if (m.isAnnotationPresent(Says.class)) {
+                methods.add(m);
+            }
+        }
+        methods.sort(Comparator.comparing(Method::getName));
+        for (Method m : methods) {
+            now = tests.getSimpleName() + "." + m.getName() + " (\"" + m.getAnnotation(Says.class).value() + "\"): ";
+            run(m);
+        }
+        now = "";
+        due("the number of tests is above 0", methods.isEmpty() ? 0 : 1, 1);
+        System.out.print(methods.size() + " tests: ");
+        end();
+    }
+
+    private static void run(Method test) {
+        try {
+            test.invoke(null);
+        } catch (InvocationTargetException e) {
+            report("the test itself threw " + e.getCause());
+        } catch (IllegalAccessException e) {
+            report("the test cannot be run: " + e);
+        }
+        Answer.noneIsOpen();
     }
 
     static void due(String call, long got, long want) {
@@ -19,11 +55,7 @@ final class Check {
         }
     }
 
-    /** Due is just this class, not one below it: what the machine throws is often below what is due. */
-    static void dueThrow(String call, Class<? extends RuntimeException> want, IntSupplier made) {
-        due(call, answerOf(made), "throws." + want.getSimpleName());
-    }
-
+    /** An exception is told by its own class, not one above it: what the machine throws is often below what is due. */
     static String answerOf(IntSupplier made) {
         try {
             return Integer.toString(made.getAsInt());
@@ -35,7 +67,7 @@ final class Check {
     static void report(String text) {
         wrong++;
         if (wrong <= 50) {
-            System.out.println(text);
+            System.out.println(now + text);
         }
     }
 

@@ -1,6 +1,9 @@
 import java.util.Random;
 
-/** Long runs of mixed calls, with BlockLog's answers and disk held against the model's. */
+/**
+ * Long runs of mixed calls, with BlockLog's answers and disk held against the model's. They go on behind the
+ * 512 calls that the document bounds, for this class goes on too, and a full disk is not reached by chance before.
+ */
 public final class ModelTest {
     private static final int RUNS = 240;
     private static final int CALLS = 500;
