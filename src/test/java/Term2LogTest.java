@@ -64,7 +64,7 @@ public final class Term2LogTest {
 
     @Says("RIGHT: .. a number of bytes that can be")
     static void aBlockOf0Or27OrMoreBytes() {
-        for (int many : new int[] {0, 27, 28, 32, 63}) {
+        for (int many : new int[] {0, 27, 28, 32, 32 + 4, 63}) {
             dueOfThree(three().with(64 + 2, Image.ONLY + many).summed(2), 1);
         }
         // an entry that would be whole with a last block of no bytes
