@@ -73,6 +73,24 @@ public final class Promise07Test {
         z.dueBlock(97, Image.fresh());
     }
 
+    @Says("1 if all blocks that were to be written are as they were to be, otherwise 0")
+    static void eachByteIsLookedAt() {
+        for (int place = 0; place < 32; place++) {
+            // the batch is on the disk already but for one byte, so that its block is to be written once more
+            Run x = new Run().drops(1);
+            x.commit().due(1);
+            x.spoil(32 + place, x.disk(32 + place).number() + 1);
+            x.dueAbout(0, 1, 0, 0);
+            x.drops(1).crash(0, place).due(0);
+            x.about(2).due(0);
+            if (place < 31) {
+                x.drops(1).crash(0, place + 1).due(1);
+                x.about(2).due(1);
+            }
+            x.about(5).due(1);
+        }
+    }
+
     @Says("IllegalArgumentException if blocks is below 0")
     static void blocksBelow0() {
         Run x = new Run().drops(1);

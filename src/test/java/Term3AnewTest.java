@@ -82,6 +82,20 @@ public final class Term3AnewTest {
         dueEpoch(Image.fresh().with(32 * 95, 200), 2);
     }
 
+    @Says("the greatest one in the first two bytes of the other half's blocks")
+    static void theOtherHalfIsHalf0() {
+        // half 1 is live: by its greater epoch, or because half 0's head, which tells of 2305, does not count
+        Image[] images = {Image.fresh().head(1, 2).with(32 * 50, 40), Image.fresh().head(1, 2).with(1, 9)};
+        int[] epochs = {41, 2306};
+        for (int i = 0; i < images.length; i++) {
+            Run x = Run.of(images[i]).logOf(95).drops(1);
+            x.about(0).due(1);
+            x.commit().due(2);
+            x.dueAbout(0, epochs[i], 1, 1);
+            x.dueBlock(0, new Image().head(0, epochs[i]));
+        }
+    }
+
     private static void dueEpoch(Image image, int epoch) {
         Run x = Run.of(image).logOf(94).batchOfBytes(1, 27);
         x.commit().due(3);
@@ -210,11 +224,15 @@ public final class Term3AnewTest {
 
     /** Keys 0 .. 55 with values of 40 bytes, all 0: 7 entries of 13 blocks; a drop is the 92nd block. */
     private static Run with91BlocksOfValues() {
+        return Run.of(imageOf91Blocks()).logOf(92);
+    }
+
+    private static Image imageOf91Blocks() {
         Image image = Image.headless();
         for (int i = 0; i < 7; i++) {
             image.entry(0, 1 + 13 * i, 0, zeros(8 * i, 8, 40));
         }
-        return Run.of(image).logOf(92);
+        return image;
     }
 
     /** An entry that gives so many keys values of so many bytes, all 0. */
@@ -247,6 +265,17 @@ public final class Term3AnewTest {
         // of 4 blocks it isn't refused
         x.forget();
         x.batchOfBytes(100, 79).commit().due(91 + 1 + 4);
+    }
+
+    @Says("If then there would not be enough blocks still .. the batch is refused")
+    static void theLastKeysValueTakesABlockToo() {
+        // its value is in the 92nd block, and in the 92nd one anew: 4 blocks are too many
+        Run x = Run.of(imageOf91Blocks()).setTo(199, 1, 1);
+        x.commit().due(1);
+        x.batchOfBytes(100, 85).setTo(102, 17, 1);
+        x.commit().due(Answer.UNSUPPORTED);
+        x.dueAbout(0, 0, 92, 8, 57, 1, 0, 3, 0);
+        x.dueValue(199, 1);
     }
 
     /** Entries of 7 keys take 11 blocks, 93 in all; of 8 keys they take 13, and it would be 96. */
